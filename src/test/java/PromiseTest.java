@@ -26,6 +26,7 @@ public final class PromiseTest {
         promise = 4;
         removeSpreads();
         removeHalves();
+        removeRoundsTheLeastNumberUp();
         removeKeepsTheLeastCells();
         removeRefusesWhatIsNotThere();
         promise = 5;
@@ -130,10 +131,8 @@ public final class PromiseTest {
 
     private static GappedStore withLevels(int levels) {
         GappedStore x = new GappedStore(16);
-        long next = 0;
-        while (x.cells() < 8 << levels) {
-            x.put(next, next);
-            next++;
+        for (int key = 0; key < 400 && x.cells() < 8 << levels; key++) {
+            x.put(key, key);
         }
         return x;
     }
@@ -362,6 +361,30 @@ public final class PromiseTest {
         due("get(13)", x.get(13), 130);
         due("put(1) afterwards", x.put(1, 0), 1);
         due("get(1)", x.get(1), 0);
+    }
+
+    /** At N = 64 a window of height 1 should hold 16 * 4 / 24 keys, which is 3. */
+    private static void removeRoundsTheLeastNumberUp() {
+        GappedStore x = new GappedStore(64);
+        x.fill(1, 1, 9);
+        x.drop(7, 3);
+        x.drop(1, 2);
+        due("four keys", layout(x), "48:3 50:4 53:5 56:6");
+        x.remove(6);
+        due("three keys are enough", layout(x), "48:3 53:4 58:5");
+        x.remove(4);
+        due("two keys, one in each segment", layout(x), "48:3 58:5");
+        x.remove(5);
+        due("one key is too few for two segments", layout(x), "48:3");
+        GappedStore y = new GappedStore(64);
+        y.fill(1, 1, 9);
+        y.drop(7, 3);
+        y.drop(1, 3);
+        due("three keys", layout(y), "48:4 52:5 56:6");
+        long moved = y.moved();
+        y.remove(6);
+        due("two keys are too few for two segments", layout(y), "48:4 52:5");
+        due("moved()", y.moved(), moved);
     }
 
     private static void removeKeepsTheLeastCells() {
