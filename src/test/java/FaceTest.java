@@ -33,15 +33,9 @@ public final class FaceTest {
         "public int GappedStore.window()",
         "public long GappedStore.moved()",
     };
-    private static int wrong = 0;
-
-    private static void tell(String fault) {
-        wrong++;
-        System.out.println(fault);
-    }
 
     private static void note(Set<String> shown, Member member, String text) {
-        if (!Modifier.isPrivate(member.getModifiers())) {
+        if (!Modifier.isPrivate(member.getModifiers()) && !member.isSynthetic()) {
             shown.add(text);
         }
     }
@@ -62,9 +56,12 @@ public final class FaceTest {
 
     private static void checkNames() {
         Set<String> names = new HashSet<>();
+        for (Method method : GappedStore.class.getMethods()) {
+            names.add(method.getName());
+        }
         for (Method method : GappedStore.class.getDeclaredMethods()) {
-            if (!names.add(method.getName())) {
-                tell("two methods are called " + method.getName());
+            if (Modifier.isPrivate(method.getModifiers()) && names.contains(method.getName())) {
+                Due.tell("a private method bears the name of a public one: " + method.getName());
             }
         }
     }
@@ -73,26 +70,24 @@ public final class FaceTest {
         for (Field field : GappedStore.class.getDeclaredFields()) {
             int modifiers = field.getModifiers();
             if (Modifier.isStatic(modifiers) && !Modifier.isFinal(modifiers)) {
-                tell("the static field " + field.getName() + " is not final");
+                Due.tell("the static field " + field.getName() + " is not final");
             }
         }
     }
 
     public static void main(String[] args) {
+        Due.about("the face");
         int modifiers = GappedStore.class.getModifiers();
         if (!Modifier.isPublic(modifiers) || !Modifier.isFinal(modifiers)) {
-            tell("the class is not public and final");
+            Due.tell("the class is not public and final");
         }
         Set<String> due = new TreeSet<>(Set.of(FACE));
         Set<String> shown = shownMembers();
         if (!shown.equals(due)) {
-            tell("the class shows " + shown + ", due is " + due);
+            Due.tell("the class shows " + shown + ", due is " + due);
         }
         checkNames();
         checkStaticFields();
-        System.out.println(wrong == 0 ? "the face is as due" : "the face is not as due");
-        if (wrong != 0) {
-            System.exit(1);
-        }
+        Due.end("the face is as due");
     }
 }

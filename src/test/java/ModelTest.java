@@ -7,13 +7,15 @@ import java.util.Set;
 import java.util.TreeMap;
 
 /**
- * Long runs of calls on a store and on a model that follows the document word by word,
- * with everything that can be asked compared after each call.
+ * Long runs of calls on a store and on a model that follows the document word by word: every answer
+ * is compared, and now and then all that can be seen of the state.
  */
 public final class ModelTest {
     private static final long NONE = Long.MIN_VALUE;
-    private static final int CALLS = 512;
-    private static final int RUNS = 240;
+    /** Less than the 512 calls that are promised, so that the state can still be looked at. */
+    private static final int CALLS = 480;
+    private static final int RUNS = 400;
+    private static final int CALLS_BETWEEN_LOOKS = 60;
 
     /** The document's terms, each made anew from the cells whenever it is needed. */
     private static final class Model {
@@ -216,6 +218,19 @@ public final class ModelTest {
             return blocks.size();
         }
 
+        long select(int k) {
+            return k < 0 || k >= values.size() ? NONE : new ArrayList<>(values.keySet()).get(k);
+        }
+
+        long cellKey(int i) {
+            return i < 0 || i >= cells.length ? NONE : orNone(cells[i]);
+        }
+
+        long borne(int place) {
+            List<Integer> order = nodesByPlace();
+            return place < 0 || place >= order.size() ? NONE : orNone(bears(order.get(place)));
+        }
+
         Map<Long, Long> range(long low, long high) {
             return low > high ? new TreeMap<>() : values.subMap(low, true, high, true);
         }
@@ -230,7 +245,6 @@ public final class ModelTest {
     }
 
     private static long seed;
-    private static int wrong = 0;
     private static String told;
 
     private static int draw(int bound) {
@@ -239,9 +253,8 @@ public final class ModelTest {
     }
 
     private static void due(String what, long got, long want) {
-        if (got != want && wrong++ < 20) {
-            System.out.println(told + ": " + what + " answered " + got + ", due is " + want);
-        }
+        Due.about(told);
+        Due.same(what, got, want);
     }
 
     private static long orNone(Long key) {
@@ -274,87 +287,107 @@ public final class ModelTest {
         }
     }
 
+    private static int drawBlock() {
+        int[] sizes = {-1, 0, 1, 2, 3, 4, 5, 7, 8, 16, 31, 64, 100, 1024, 1025};
+        return draw(2) == 0 ? sizes[draw(sizes.length)] : 1 + draw(1024);
+    }
+
     /** Runs swing between growing and shrinking, so that the array doubles and halves over and over. */
-    private static void change(GappedStore x, Model m, int kind, boolean growing) {
+    private static void change(Watched x, Model m, int kind, boolean growing) {
         int roll = draw(10);
         boolean adds = growing ? roll < 8 : roll < 2;
-        boolean many = draw(6) == 0;
+        boolean many = draw(4) == 0;
         long key = drawKey(kind);
         if (adds && many) {
             long step = draw(4) == 0 ? drawKey(5) : draw(7) - 3;
             int n = drawLength();
-            told += " fill(" + key + ", " + step + ", " + n + ")";
-            due("fill", x.fill(key, step, n), m.fill(key, step, n));
+            due("fill(" + key + ", " + step + ", " + n + ")", x.fill(key, step, n), m.fill(key, step, n));
         } else if (adds) {
             long v = drawKey(5);
-            told += " put(" + key + ", " + v + ")";
-            due("put", x.put(key, v), m.put(key, v));
+            due("put(" + key + ", " + v + ")", x.put(key, v), m.put(key, v));
         } else if (many) {
             int n = drawLength();
-            told += " drop(" + key + ", " + n + ")";
-            due("drop", x.drop(key, n), m.drop(key, n));
+            due("drop(" + key + ", " + n + ")", x.drop(key, n), m.drop(key, n));
         } else {
             Long there = draw(3) == 0 ? null : m.values.ceilingKey(key);
             long gone = there == null ? key : there;
-            told += " remove(" + gone + ")";
-            due("remove", flag(x.remove(gone)), flag(m.remove(gone)));
+            due("remove(" + gone + ")", flag(x.remove(gone)), flag(m.remove(gone)));
         }
     }
 
-    private static void compareState(GappedStore x, Model m) {
-        due("size()", x.size(), m.values.size());
-        due("cells()", x.cells(), m.cells.length);
-        due("window()", x.window(), m.window);
-        due("moved()", x.moved(), m.moved);
-        for (int i = -1; i <= 513; i++) {
-            due("cellKey(" + i + ")", x.cellKey(i), i < 0 || i >= m.cells.length ? NONE : orNone(m.cells[i]));
-        }
-        List<Integer> order = m.nodesByPlace();
-        for (int i = -1; i <= 65; i++) {
-            due("place(" + i + ")", x.place(i), order.indexOf(i));
-            due("borne(" + i + ")", x.borne(i), i < 0 || i >= order.size() ? NONE : orNone(m.bears(order.get(i))));
+    private static void ask(Watched x, Model m, int kind) {
+        if (draw(2) == 0) {
+            askForKeys(x, m, draw(6) == 0 ? NONE : drawKey(kind), drawKey(kind));
+        } else {
+            askForCells(x, m, drawKey(kind), draw(4) == 0 ? draw(700) - 100 : draw(m.cells.length));
         }
     }
 
-    private static void compareAnswers(GappedStore x, Model m, long key, long other) {
-        due("has(" + key + ")", flag(x.has(key)), flag(m.values.containsKey(key)));
-        due("get(" + key + ")", x.get(key), m.values.getOrDefault(key, 0L));
-        due("floor(" + key + ")", x.floor(key), orNone(m.values.floorKey(key)));
-        due("ceiling(" + key + ")", x.ceiling(key), orNone(m.values.ceilingKey(key)));
-        due("count(" + key + ", " + other + ")", x.count(key, other), m.range(key, other).size());
-        due("sum(" + key + ", " + other + ")", x.sum(key, other), m.sum(key, other));
-        int[] sizes = {-1, 0, 1, 2, 3, 4, 5, 7, 8, 16, 31, 64, 100, 1024, 1025};
-        int b = draw(2) == 0 ? sizes[draw(sizes.length)] : 1 + draw(1024);
-        due("touched(" + key + ", " + b + ")", x.touched(key, b), m.touched(key, b));
-    }
-
-    private static void compareOrder(GappedStore x, Model m) {
-        List<Long> rising = new ArrayList<>(m.values.keySet());
-        for (int k = -1; k <= rising.size() + 1; k++) {
-            due("select(" + k + ")", x.select(k), k < 0 || k >= rising.size() ? NONE : rising.get(k));
-        }
-        for (long key : rising) {
-            due("get(" + key + ")", x.get(key), m.values.get(key));
+    private static void askForKeys(Watched x, Model m, long key, long other) {
+        switch (draw(7)) {
+            case 0: due("has(" + key + ")", flag(x.has(key)), flag(m.values.containsKey(key))); break;
+            case 1: due("get(" + key + ")", x.get(key), m.values.getOrDefault(key, 0L)); break;
+            case 2: due("floor(" + key + ")", x.floor(key), orNone(m.values.floorKey(key))); break;
+            case 3: due("ceiling(" + key + ")", x.ceiling(key), orNone(m.values.ceilingKey(key))); break;
+            case 4: due("count(" + key + ", " + other + ")", x.count(key, other), m.range(key, other).size()); break;
+            case 5: due("sum(" + key + ", " + other + ")", x.sum(key, other), m.sum(key, other)); break;
+            default:
+                int b = drawBlock();
+                due("touched(" + key + ", " + b + ")", x.touched(key, b), m.touched(key, b));
         }
     }
 
+    private static void askForCells(Watched x, Model m, long key, int i) {
+        switch (draw(8)) {
+            case 0: due("select(" + i + ")", x.select(i), m.select(i)); break;
+            case 1: due("size()", x.size(), m.values.size()); break;
+            case 2: due("cells()", x.cells(), m.cells.length); break;
+            case 3: due("cellKey(" + i + ")", x.cellKey(i), m.cellKey(i)); break;
+            case 4: due("place(" + i / 7 + ")", x.place(i / 7), m.nodesByPlace().indexOf(i / 7)); break;
+            case 5: due("borne(" + i / 7 + ")", x.borne(i / 7), m.borne(i / 7)); break;
+            case 6: due("window()", x.window(), m.window); break;
+            default: due("moved()", x.moved(), m.moved);
+        }
+    }
+
+    private static void lookAtAll(Watched x, Model m) {
+        long[] cells = x.cellsSeen();
+        due("cells()", cells.length, m.cells.length);
+        for (int i = 0; i < Math.min(cells.length, m.cells.length); i++) {
+            due("cellKey(" + i + ")", cells[i], m.cellKey(i));
+        }
+        long[] borne = x.borneSeen();
+        for (int place = 0; place < borne.length; place++) {
+            due("borne(" + place + ")", borne[place], m.borne(place));
+        }
+        for (Map.Entry<Long, Long> entry : m.values.entrySet()) {
+            due("get(" + entry.getKey() + ")", x.valueSeen(entry.getKey()), entry.getValue());
+        }
+        due("size()", x.sizeSeen(), m.values.size());
+        due("window()", x.windowSeen(), m.window);
+        due("moved()", x.movedSeen(), m.moved);
+    }
+
+    /** Answers the most cells that the run had. */
     private static int run(int number) {
         int[] wanted = {16, 32, 64, 0, 48};
         int kind = number % 6;
         seed = 77L + number;
         int swing = 20 + draw(200);
+        int questions = draw(4);
         int first = wanted[number % wanted.length];
-        GappedStore x = new GappedStore(first);
+        Watched x = new Watched(first);
         Model m = new Model(first);
         int most = 0;
-        for (int call = 0; call < CALLS && wrong == 0; call++) {
-            told = "run " + number + " call " + call;
-            change(x, m, kind, call / swing % 2 == 0);
-            compareState(x, m);
-            compareAnswers(x, m, drawKey(kind), drawKey(kind));
-            compareAnswers(x, m, draw(3) == 0 ? NONE : drawKey(5), drawKey(5));
-            if (call % 16 == 0) {
-                compareOrder(x, m);
+        for (int call = 0; call < CALLS && Due.allRight(); call++) {
+            told = "run " + number + ", call " + call;
+            if (draw(4) < questions) {
+                ask(x, m, kind);
+            } else {
+                change(x, m, kind, call / swing % 2 == 0);
+            }
+            if (call % CALLS_BETWEEN_LOOKS == CALLS_BETWEEN_LOOKS - 1) {
+                lookAtAll(x, m);
             }
             most = Math.max(most, m.cells.length);
         }
@@ -362,17 +395,13 @@ public final class ModelTest {
     }
 
     public static void main(String[] args) {
-        boolean full = false;
-        for (int number = 0; number < RUNS && wrong == 0; number++) {
-            full |= run(number) == 512;
+        int full = 0;
+        for (int number = 0; number < RUNS && Due.allRight(); number++) {
+            full += run(number) == 512 ? 1 : 0;
         }
-        if (!full) {
-            wrong++;
-            System.out.println("no run grew to 512 cells: the runs test too little");
+        if (Due.allRight() && full < RUNS / 10) {
+            Due.tell("only " + full + " runs grew to 512 cells: the runs test too little");
         }
-        System.out.println(wrong == 0 ? RUNS + " runs are as the model's" : "a run is not as the model's");
-        if (wrong != 0) {
-            System.exit(1);
-        }
+        Due.end(RUNS + " runs are as the model's, " + full + " of them with 512 cells");
     }
 }
